@@ -8,6 +8,11 @@ public final class ParcelSorter {
     private static final int MOST_PLACES = 30;
     private static final int MOST_STATIONS = 3;
     private static final int MOST_CHUTES = 8;
+    private static final int MOST_CAPACITY = 20;
+    private static final int MOST_GAP = 5;
+    private static final int MOST_LIMIT = 50;
+    private static final int MOST_CLEARING = 9;
+    private static final int MOST_SWAP = 9;
     private static final int MOST_PARCELS = 60;
     private static final int MOST_WAITING = 10;
     private static final int MOST_WEIGHT = 50;
@@ -92,8 +97,8 @@ public final class ParcelSorter {
         if (!now.isFree(place)) {
             throw new IllegalArgumentException("no free place");
         }
-        if (!isIn(capacity, 1, 20) || !isIn(gap, 0, 5) || !isIn(limit, 1, MOST_WEIGHT)
-                || !isIn(clearing, 1, 9) || !isIn(swap, 0, 9)) {
+        if (!isIn(capacity, 1, MOST_CAPACITY) || !isIn(gap, 0, MOST_GAP) || !isIn(limit, 1, MOST_LIMIT)
+                || !isIn(clearing, 1, MOST_CLEARING) || !isIn(swap, 0, MOST_SWAP)) {
             throw new IllegalArgumentException("argument out of range");
         }
         if (now.chuteCount >= MOST_CHUTES) {
@@ -351,9 +356,9 @@ public final class ParcelSorter {
     }
 
     public boolean audit() {
-        if (now.parcelsWhoseStateIs(WAITS) != now.waitingInStations()
-                || now.parcelsWhoseStateIs(ON_LOOP) != now.carriedOnLoop()
-                || now.parcelsWhoseStateIs(DROPPED) != now.droppedCount) {
+        if (now.parcelsThatAre(WAITS) != now.waitingInStations()
+                || now.parcelsThatAre(ON_LOOP) != now.carriedOnLoop()
+                || now.parcelsThatAre(DROPPED) != now.droppedCount) {
             return false;
         }
         if (now.waitingInStations() + now.carriedOnLoop() + now.droppedCount != now.parcelCount) {
@@ -1088,7 +1093,7 @@ public final class ParcelSorter {
         }
 
         private boolean isOpenFor(int chute, Parcel parcel) {
-            return chute < chuteCount && chutes[chute].isUsable() && !parcel.isSpoiltFor(chute);
+            return isIn(chute, 0, chuteCount - 1) && chutes[chute].isUsable() && !parcel.isSpoiltFor(chute);
         }
 
         private void tryParcel(int number, int parcelNumber) {
@@ -1214,7 +1219,7 @@ public final class ParcelSorter {
 
         // -- the audit, which counts from the parcels alone
 
-        int parcelsWhoseStateIs(int whereabouts) {
+        int parcelsThatAre(int whereabouts) {
             int sum = 0;
             for (int i = 0; i < parcelCount; i++) {
                 if (parcels[i].whereabouts == whereabouts) {

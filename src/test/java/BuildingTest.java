@@ -4,6 +4,7 @@ public final class BuildingTest {
         newObject();
         build();
         buildKeepsInputPaperAndSnapshot();
+        newOnesAreFresh();
         addStation();
         addChute();
         fullLoop();
@@ -83,6 +84,36 @@ public final class BuildingTest {
         Check.same("its places", 12, x.count(1));
         Check.same("its chutes", 1, x.count(3));
         Check.same("its plans", 1, x.count(4));
+    }
+
+    /** What stood before a build leaves no trace in what is added after it. */
+    private static void newOnesAreFresh() {
+        for (int ticks = 0; ticks < 20; ticks++) {
+            ParcelSorter x = new ParcelSorter();
+            use(x, ticks);
+            x.setClosed(0, true);
+            x.build(12);
+            ParcelSorter twin = new ParcelSorter();
+            use(x, 0);
+            use(twin, 0);
+            Check.same("after " + ticks + " ticks", Check.everything(twin), Check.everything(x));
+            x.run(20);
+            twin.run(20);
+            Check.same("and 20 more", Check.everything(twin), Check.everything(x));
+        }
+    }
+
+    private static void use(ParcelSorter x, int ticks) {
+        x.addStation(11);
+        x.addChute(2, 1, 0, 10, 9, 9);
+        x.addChute(4, 2, 3, 10, 9, 0);
+        Check.addPlan(x, "@0:0-9=0;10-19=1x0");
+        for (int i = 0; i < 8; i++) {
+            x.arrive(0, i * 3, 7 + i, 0);
+        }
+        for (int i = 0; i < ticks; i++) {
+            x.run(1);
+        }
     }
 
     private static void addStation() {

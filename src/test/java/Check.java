@@ -81,6 +81,40 @@ final class Check {
         return text.toString();
     }
 
+    /** All that can be asked of a sorter, but for the paper. */
+    static String everything(ParcelSorter sorter) {
+        StringBuilder text = new StringBuilder();
+        for (int what = 0; what <= 16; what++) {
+            text.append(sorter.count(what)).append(' ');
+        }
+        for (int i = 0; i < sorter.count(2); i++) {
+            text.append("\nstation");
+            for (int what = 0; what <= 3; what++) {
+                text.append(' ').append(sorter.station(i, what));
+            }
+        }
+        for (int i = 0; i < sorter.count(3); i++) {
+            text.append("\nchute");
+            for (int what = 0; what <= 11; what++) {
+                text.append(' ').append(sorter.chute(i, what));
+            }
+        }
+        for (int i = 0; i < sorter.count(4); i++) {
+            text.append("\nplan ").append(written(sorter, i));
+        }
+        for (int i = 0; i < sorter.count(5); i++) {
+            text.append("\nparcel");
+            for (int what = 0; what <= 11; what++) {
+                text.append(' ').append(sorter.parcel(i, what));
+            }
+        }
+        text.append("\nledger");
+        for (int i = 0; i < sorter.count(8); i++) {
+            text.append(' ').append(sorter.ledger(i, 0));
+        }
+        return text.toString();
+    }
+
     private static void report(String line) {
         wrong++;
         System.out.println(line);

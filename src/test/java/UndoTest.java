@@ -7,6 +7,8 @@ public final class UndoTest {
         inputAndPaperStay();
         snapshot();
         snapshotIsKept();
+        everythingComesBack();
+        ledgerComesBack();
         Check.end();
     }
 
@@ -155,6 +157,92 @@ public final class UndoTest {
         Check.same("the paper stays", "@0:0-9=1x0", Check.paper(x, 10));
         Check.same("the input stays", 2, Check.addPlan(x, "x0"));
         Check.same("the old plan", "@0:0-49=0x0", Check.written(x, 0));
+    }
+
+    /** A sorter in the midst of everything: drops, a jam, a swap, a pass, a spoilt chute, waiting parcels. */
+    private static ParcelSorter busy() {
+        ParcelSorter x = new ParcelSorter();
+        x.build(14);
+        x.addStation(12);
+        x.addStation(10);
+        x.addChute(2, 3, 0, 20, 7, 8);
+        x.addChute(4, 9, 4, 50, 9, 1);
+        x.addChute(6, 2, 1, 50, 9, 0);
+        x.addChute(8, 1, 0, 50, 3, 9);
+        Check.addPlan(x, "@0:0-29=0;30-59=1;60-89=2,1x3*2");
+        Check.addPlan(x, "@20:0-49=2;50-99=0,1x1");
+        for (int i = 0; i < 10; i++) {
+            x.arrive(0, 37 * i % 100, 7 * i % 23 + 1, i % 4 == 3 ? 1 : 0);
+            x.arrive(1, 61 * i % 100, 11 * i % 41 + 1, i % 5 == 4 ? 2 : 0);
+        }
+        x.setClosed(2, true);
+        x.run(16);
+        x.setClosed(2, false);
+        return x;
+    }
+
+    /** Every slot of the state is used for something else before it comes back. */
+    private static void everythingComesBack() {
+        ParcelSorter x = busy();
+        ParcelSorter twin = busy();
+        x.saveSnapshot();
+        x.build(30);
+        x.addStation(1);
+        x.addStation(2);
+        x.addStation(3);
+        for (int i = 0; i < 8; i++) {
+            x.addChute(10 + i, 1, 5, 1, 1, 5);
+        }
+        Check.addPlan(x, "@0:0-9=7;10-99=6,5,4x3*0");
+        for (int i = 0; i < 30; i++) {
+            x.arrive(i % 3, 99 - i, i % 3 + 1, i % 3);
+            x.run(9);
+            x.setClosed(i % 8, true);
+        }
+        Check.same("the time", 16, x.restoreSnapshot());
+        Check.same("everything", Check.everything(twin), Check.everything(x));
+        for (int i = 0; i < 12; i++) {
+            x.run(5);
+            twin.run(5);
+            Check.same("and it goes on as it would have", Check.everything(twin), Check.everything(x));
+        }
+        undoneOneByOne();
+    }
+
+    private static void ledgerComesBack() {
+        ParcelSorter x = new ParcelSorter();
+        dropTwo(x, 50, 1);
+        Check.same("the second one first", 1, x.ledger(0, 0));
+        x.saveSnapshot();
+        x.build(12);
+        dropTwo(x, 1, 50);
+        Check.same("another order", 0, x.ledger(0, 0));
+        x.restoreSnapshot();
+        Check.same("the order of the snapshot", 1, x.ledger(0, 0));
+        Check.same("the order of the snapshot", 0, x.ledger(1, 0));
+    }
+
+    private static void dropTwo(ParcelSorter x, int firstDestination, int secondDestination) {
+        x.addStation(11);
+        x.addChute(3, 5, 0, 50, 9, 9);
+        x.addChute(9, 5, 0, 50, 9, 9);
+        Check.addPlan(x, "@0:0-49=0;50-99=1x1");
+        x.arrive(0, firstDestination, 1, 0);
+        x.arrive(0, secondDestination, 1, 0);
+        Check.same("both are dropped", 2, x.run(20));
+    }
+
+    private static void undoneOneByOne() {
+        ParcelSorter x = busy();
+        String[] before = new String[8];
+        for (int i = 0; i < 8; i++) {
+            before[i] = Check.everything(x);
+            x.run(i + 3);
+        }
+        for (int i = 7; i >= 0; i--) {
+            x.undo();
+            Check.same("change " + i, before[i], Check.everything(x));
+        }
     }
 
     private static void snapshotIsKept() {
