@@ -1,4 +1,4 @@
-/** What the tests share: comparing, expecting an exception, and feeding a text. */
+/** What the tests share: the sentence that is held, comparing, expecting an exception, and feeding a text. */
 final class Check {
     interface Call {
         void go();
@@ -13,6 +13,13 @@ final class Check {
 
     private static int checks = 0;
     private static int wrong = 0;
+    private static String held = "";
+
+    /** Says which sentence of the document the checks that follow hold; some words of it are enough. */
+    static void holds(String part, String words) {
+        held = "[" + part + ": " + words + "] ";
+        yes("the document says so", Document.hasIn(part, words));
+    }
 
     static void same(String what, long due, long got) {
         checks++;
@@ -117,7 +124,7 @@ final class Check {
 
     private static void report(String line) {
         wrong++;
-        System.out.println(line);
+        System.out.println(held + line);
     }
 
     static void end() {
