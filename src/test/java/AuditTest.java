@@ -33,6 +33,7 @@ public final class AuditTest {
         spoil("parcels", 1, "whereabouts", 7);
         spoil("parcels", 2, "whereabouts", 1);
         loseTheCarriedParcel();
+        haveAParcelNowhere();
         Check.end();
     }
 
@@ -54,6 +55,17 @@ public final class AuditTest {
         ParcelSorter x = sorter();
         Arrays.fill((int[]) part(part(x, "now"), "carriers"), -1);
         Check.no("no carrier has it", x.audit());
+    }
+
+    /** It is counted as a parcel, but is neither in a station nor on the loop nor dropped. */
+    private static void haveAParcelNowhere() throws Exception {
+        ParcelSorter x = sorter();
+        Object state = part(x, "now");
+        Object parcel = Array.get(part(state, "parcels"), 3);
+        add(parcel, "whereabouts", 9);
+        add(parcel, "verdict", -1);
+        add(state, "parcelCount", 1);
+        Check.no("a parcel that is nowhere", x.audit());
     }
 
     private static void spoil(String row, int i, String name, int by) throws Exception {

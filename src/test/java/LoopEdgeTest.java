@@ -10,6 +10,7 @@ public final class LoopEdgeTest {
         placesAreRefused();
         buildAnswersTheParcels();
         buildForgets();
+        builtAsNew();
         buildKeeps();
         everyCarrierMoves();
         fullLoop();
@@ -128,6 +129,37 @@ public final class LoopEdgeTest {
         Check.same("the first one at tick", 3, x.ledger(0, 2));
         Check.same("ledger from 0", 0, x.ledger(0, 0));
         Check.same("mean", 0.0, x.meanRounds());
+    }
+
+    /** What stood there before has left nothing behind in what comes into its place. */
+    private static void builtAsNew() {
+        Check.holds("2", "Makes a new loop without stations, chutes, plans and parcels.");
+        Twin.becomes("built anew", () -> built(new ParcelSorter()), () -> built(usedAnew()), x -> { });
+        Twin.becomes("built after all were dropped", () -> built(new ParcelSorter()),
+            () -> built(Scene.ALL_DROPPED.get()), x -> { });
+        Twin.becomes("built in the midst of everything", () -> built(new ParcelSorter()), () -> built(Scene.midst()),
+            x -> { });
+    }
+
+    private static ParcelSorter usedAnew() {
+        ParcelSorter x = new ParcelSorter();
+        Scene.useAnew(x);
+        return x;
+    }
+
+    private static ParcelSorter built(ParcelSorter x) {
+        x.build(12);
+        for (int i = 0; i < 8; i++) {
+            x.addChute(1 + i, 2, 0, 50, 1, 0);
+        }
+        for (int i = 0; i < 3; i++) {
+            x.addStation(9 + i);
+        }
+        for (int i = 0; i < 30; i++) {
+            x.arrive(i % 3, i, 1, 0);
+        }
+        Check.addPlan(x, "@4:0-2=0;3-5=1;6-8=2;9-11=3;12-14=4;15-17=5;18-20=6;21-29=7x0");
+        return x;
     }
 
     private static void buildKeeps() {

@@ -6,6 +6,7 @@ public final class ScanEdgeTest {
     public static void main(String[] args) {
         rounds();
         planOfThePresentTick();
+        planOfTheLastFirstTick();
         noPlan();
         unreadable();
         bound();
@@ -21,6 +22,7 @@ public final class ScanEdgeTest {
         ruleOfTheTrueDestination();
         countRefuses();
         counts();
+        sumsOfAllChutes();
         greatestRounds();
         meanRounds();
         Check.end();
@@ -64,6 +66,25 @@ public final class ScanEdgeTest {
             Scene.arrive(y, 1);
             y.run(2);
             scanned("first tick " + first + " after 0", y, 0, 0, first <= 2 ? 1 : 0);
+        }
+    }
+
+    /** 9999 is the last first tick that there can be; the time goes on. */
+    private static void planOfTheLastFirstTick() {
+        Check.holds("Scanning", "by the plan of the present tick");
+        int[] arrivals = {9996, 9997, 9998, 10050};
+        int[] targets = {0, 1, 1, 1};
+        for (int i = 0; i < arrivals.length; i++) {
+            ParcelSorter x = Scene.line(3, 5);
+            Check.addPlan(x, "@0:1=0x0");
+            Check.addPlan(x, "@9999:1=1x1");
+            for (int hundreds = arrivals[i] / 100; hundreds > 0; hundreds--) {
+                x.run(100);
+            }
+            x.run(arrivals[i] % 100);
+            Scene.arrive(x, 1);
+            x.run(2);
+            scanned("scanned at " + (arrivals[i] + 2), x, 0, 0, targets[i]);
         }
     }
 
@@ -405,6 +426,26 @@ public final class ScanEdgeTest {
         }
     }
 
+    private static void sumsOfAllChutes() {
+        Check.holds("18", "14 the jams of all chutes; 15 the finished bags of all chutes");
+        for (int chute = 0; chute < 8; chute++) {
+            ParcelSorter x = new ParcelSorter();
+            x.addStation(11);
+            for (int place = 1; place <= 8; place++) {
+                x.addChute(place, 1, 0, 49, 1, 0);
+            }
+            Check.addPlan(x, "@0:0-99=" + chute + "x0");
+            x.arrive(0, 1, 50, 0);
+            x.run(chute + 3);
+            Check.same("a jam of chute " + chute, 1, x.count(14));
+            Check.same("no bag", 0, x.count(15));
+            Scene.arrive(x, 1);
+            x.run(chute + 3);
+            Check.same("a bag of chute " + chute, 1, x.count(15));
+            Check.same("no other jam", 1, x.count(14));
+        }
+    }
+
     private static void greatestRounds() {
         Check.holds("18", "16 the greatest number of rounds of a parcel, 0 without parcels");
         Check.same("without parcels", 0, new ParcelSorter().count(16));
@@ -454,6 +495,11 @@ public final class ScanEdgeTest {
             Check.same("dropped", dropped, x.count(8));
             Check.same("mean of " + dropped, 2.0 / dropped, x.meanRounds());
         }
+        x.setClosed(0, true);
+        Scene.arrive(x, 1);
+        x.run(38);
+        Check.same("those on the loop have rounds too", 5, x.count(13));
+        Check.same("but do not count", 2.0 / 7, x.meanRounds());
         Twin.unchanged("meanRounds", Scene.BUSY, y -> y.meanRounds());
     }
 }

@@ -74,6 +74,23 @@ final class Scene {
      */
     private static ParcelSorter busy() {
         ParcelSorter x = new ParcelSorter();
+        beginMidst(x);
+        x.saveSnapshot();
+        goOnInMidst(x);
+        x.write(1);
+        Check.feed(x, "@77:5-6=1;8");
+        return x;
+    }
+
+    /** As busy, but without a snapshot, a paper and an input. */
+    static ParcelSorter midst() {
+        ParcelSorter x = new ParcelSorter();
+        beginMidst(x);
+        goOnInMidst(x);
+        return x;
+    }
+
+    private static void beginMidst(ParcelSorter x) {
         x.build(14);
         x.addStation(12);
         x.addStation(10);
@@ -84,7 +101,9 @@ final class Scene {
         Check.addPlan(x, "@0:0-29=0;30-59=1;60-89=2,1x3*2");
         x.arrive(0, 37, 10, 0);
         x.run(1);
-        x.saveSnapshot();
+    }
+
+    private static void goOnInMidst(ParcelSorter x) {
         Check.addPlan(x, "@20:0-49=2;50-99=0,1x1");
         for (int i = 0; i < 10; i++) {
             x.arrive(0, 37 * i % 100, 7 * i % 23 + 1, i % 4 == 3 ? 1 : 0);
@@ -96,9 +115,29 @@ final class Scene {
         x.setClosed(3, true);
         x.setClosed(2, false);
         x.arrive(1, 61, 4, 1);
-        x.write(1);
-        Check.feed(x, "@77:5-6=1;8");
-        return x;
+    }
+
+    /** Puts something else into each place that a state has: stations, chutes, plans, parcels, carriers, ledger. */
+    static void useAnew(ParcelSorter x) {
+        x.build(30);
+        for (int i = 0; i < 3; i++) {
+            x.addStation(29 - i);
+        }
+        for (int i = 0; i < 8; i++) {
+            x.addChute(16 + i, 1, 5, i < 4 ? 50 : 1, 8, 8);
+        }
+        Check.addPlan(x, "@1:9=0,1;8=2,3;7=6x7*0");
+        for (int i = 0; i < 60; i++) {
+            x.arrive(i % 3, 9 - i % 2, 50, i % 3);
+            if (i == 29) {
+                x.run(45);
+            }
+        }
+        x.run(100);
+        x.run(3);
+        for (int i = 0; i < 8; i++) {
+            x.setClosed(i, true);
+        }
     }
 
     /** No room for anything more: stations, chutes, plans, parcels, waiting parcels, carriers, signs of the input. */

@@ -28,9 +28,9 @@ final class Twin {
         PARTS.add(x -> counts(x) + stations(x) + chutes(x));
         PARTS.add(x -> paper(x) + " mean " + answer(x, y -> y.meanRounds()) + " audit " + x.audit());
         PARTS.add(x -> plans(x));
-        for (int i = 0; i < 60; i += 20) {
+        for (int i = 0; i < 60; i += 12) {
             int first = i;
-            PARTS.add(x -> parcels(x, first, first + 20));
+            PARTS.add(x -> parcels(x, first, first + 12));
         }
         PARTS.add(x -> ledger(x));
         PARTS.add(x -> carried(x) + " feed " + answer(x, y -> (int) y.feed('@')) + answer(x, y -> y.restoreSnapshot()));

@@ -1,6 +1,7 @@
 import java.util.ArrayList;
 import java.util.List;
 import java.util.function.Consumer;
+import java.util.function.Supplier;
 
 /** The boundary cases of "Undo" and "Exceptions" and of promises 24 to 26: undo, saveSnapshot, restoreSnapshot. */
 public final class UndoEdgeTest {
@@ -321,60 +322,60 @@ public final class UndoEdgeTest {
 
     private static void snapshotIsKept() {
         Check.holds("26", "Restores what was saved by the latest snapshot, which is kept.");
-        ParcelSorter due = Scene.BUSY.get();
-        ParcelSorter x = Scene.BUSY.get();
+        for (int times = 2; times <= 3; times++) {
+            int t = times;
+            Twin.becomes("restored " + t + " times", () -> restored(1), () -> restored(t), x -> { });
+        }
+        Twin.becomes("restored after build", () -> restored(1), () -> restored(1), x -> {
+            x.build(20);
+            x.restoreSnapshot();
+        });
+        Check.holds("26", "No changes can be undone afterwards.");
+        Twin.refused("undo", Check.STATE, () -> restored(1), x -> x.undo());
+        Twin.becomes("but what comes then", () -> restored(1), () -> restored(1), x -> {
+            x.run(1);
+            Check.same("the only one", 0, x.undo());
+        });
+    }
+
+    private static ParcelSorter restored(int times) {
+        ParcelSorter x = Scene.midst();
         x.saveSnapshot();
-        for (int i = 0; i < 3; i++) {
+        for (int i = 0; i < times; i++) {
             x.run(50);
             x.setClosed(i, true);
-            Check.addPlan(x, "~");
+            Check.addPlan(x, "@" + i + ":5=0x0");
             x.arrive(0, 5, 5, 0);
             x.restoreSnapshot();
-            Check.same("time " + i, Check.everything(due), Check.everything(x));
         }
-        Check.holds("26", "No changes can be undone afterwards.");
-        Check.refuses("undo", Check.STATE, () -> x.undo());
-        x.run(1);
-        Check.same("but what comes then", 0, x.undo());
-        Check.same("as restored", Check.everything(due), Check.everything(x));
-        x.build(20);
-        x.restoreSnapshot();
-        Check.same("after build", Check.everything(due), Check.everything(x));
+        return x;
     }
 
     private static void snapshotSavesEverything() {
         Check.holds("25", "Saves everything but the input, the paper and what can be undone");
-        Twin.becomes("saved, spoilt and restored", () -> savedAndRestored(false), () -> savedAndRestored(true), x -> { });
-        Twin.becomes("full, saved, spoilt and restored", () -> fullAgain(false), () -> fullAgain(true), x -> { });
+        for (Supplier<ParcelSorter> scene : List.of(Scene.BUSY, Scene.FULL, Scene.ALL_DROPPED, Scene.NEW)) {
+            Twin.becomes("all comes back", () -> savedAndRestored(scene, false), () -> savedAndRestored(scene, true),
+                x -> { });
+        }
     }
 
-    private static ParcelSorter savedAndRestored(boolean isSpoilt) {
-        ParcelSorter x = Scene.BUSY.get();
+    private static ParcelSorter savedAndRestored(Supplier<ParcelSorter> scene, boolean isUsedBetween) {
+        ParcelSorter x = scene.get();
+        emptyInput(x);
         x.saveSnapshot();
-        if (isSpoilt) {
-            x.run(33);
-            x.addStation(1);
-            x.addChute(13, 1, 5, 1, 9, 9);
-            x.setClosed(0, true);
-            x.undo();
-            x.undo();
+        if (isUsedBetween) {
+            Scene.useAnew(x);
         }
         x.restoreSnapshot();
         return x;
     }
 
-    private static ParcelSorter fullAgain(boolean isSpoilt) {
-        ParcelSorter x = Scene.FULL.get();
-        x.saveSnapshot();
-        if (isSpoilt) {
-            x.build(13);
-            x.addStation(12);
-            x.addChute(5, 20, 0, 50, 9, 9);
-            Scene.arrive(x, 9, 8, 7);
-            x.run(50);
+    private static void emptyInput(ParcelSorter x) {
+        try {
+            x.addPlan();
+        } catch (IllegalStateException e) {
+            Check.same("there are five plans, but the input is empty now", 5, x.count(4));
         }
-        x.restoreSnapshot();
-        return x;
     }
 
     private static void snapshotOfAnotherLoop() {
