@@ -29,6 +29,7 @@ public final class TickEdgeTest {
         clearLastTick();
         chuteNumbers();
         chuteProperties();
+        countsGoOn();
         firstOfSeveral();
         Check.end();
     }
@@ -615,6 +616,28 @@ public final class TickEdgeTest {
         x.run(1);
         are(x, 1, 1, 0, 3, 0, 0, 0, 4, 2, 1, 0, 1, 0);
         are(x, 0, 10, 0, 0, 0, 0, 1, -1, 0, 0, 0, 0, 5);
+    }
+
+    /** A jam at 5, a pass at 6, a bag at 10, a pass at 11, a bag at 13: none begins anew with another one. */
+    private static void countsGoOn() {
+        Check.holds("16", "7 the parcels dropped into it; 8 the jams; 9 the passes; 10 the finished bags");
+        ParcelSorter x = Scene.lineTo(1, 0, 10, 2, 2);
+        x.arrive(0, 1, 11, 0);
+        Scene.arrive(x, 2);
+        x.run(5);
+        are(x, 0, 3, 0, 2, 0, 0, 0, -1, 0, 1, 0, 0, 1);
+        Scene.arrive(x, 3);
+        x.run(1);
+        are(x, 0, 3, 0, 1, 0, 0, 0, -1, 0, 1, 1, 0, 0);
+        Scene.arrive(x, 4);
+        x.run(2);
+        Scene.arrive(x, 5);
+        x.run(2);
+        are(x, 0, 3, 1, 0, 2, 0, 0, 10, 1, 1, 1, 1, 2);
+        x.run(1);
+        are(x, 0, 3, 1, 0, 1, 0, 0, 10, 1, 1, 2, 1, 1);
+        x.run(2);
+        are(x, 0, 3, 1, 0, 2, 0, 0, 13, 2, 1, 2, 2, 0);
     }
 
     private static void are(ParcelSorter x, int chute, int... due) {
