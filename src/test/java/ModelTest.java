@@ -1,26 +1,40 @@
+import java.util.ArrayList;
+import java.util.List;
 import java.util.Random;
+import java.util.function.Function;
 import java.util.function.Supplier;
 
-/** All promises: long runs of calls, ordinary and wild, on the class and on the model, with a fixed seed. */
+/**
+ * All promises: runs of calls, ordinary and wild, on the class and on the model, with a fixed seed. Each object is
+ * asked 512 times at the most: what stands at the end of a run is asked of other objects on which the same was done.
+ */
 public final class ModelTest {
-    private static final int RUNS = 400;
-    private static final int CALLS = 300;
+    private static final int RUNS = 3000;
+    private static final int MOST_CALLS = 512;
+    private static final int MOST_PLAYED = 420;
     private static final int[] WILD = {
         -1, Integer.MIN_VALUE, Integer.MAX_VALUE, 100, 200, 201, 31, 50, 51, 12, 60, -2, 1 << 20, 256, 1000};
 
     private final Random random;
+    private final int played;
+    private final int arrivals;
     private final ParcelSorter sorter = new ParcelSorter();
     private final Model model = new Model();
+    private final List<Function<ParcelSorter, Object>> calls = new ArrayList<>();
     private final StringBuilder story = new StringBuilder();
+    private ParcelSorter probe;
+    private int asked = MOST_CALLS;
 
     private ModelTest(long seed) {
         random = new Random(seed);
+        played = 20 + random.nextInt(MOST_PLAYED - 19);
+        arrivals = 20 + random.nextInt(40);
     }
 
     public static void main(String[] args) {
         long first = args.length > 0 ? Long.parseLong(args[0]) : 1;
         long last = args.length > 1 ? Long.parseLong(args[1]) : RUNS;
-        int[] seen = new int[20];
+        int[] seen = new int[22];
         for (long seed = first; seed <= last; seed++) {
             ModelTest test = new ModelTest(seed);
             test.play(seed);
@@ -28,7 +42,7 @@ public final class ModelTest {
         }
         // a run that never comes to these cases would prove nothing
         String[] cases = {"0", "1", "2", "3", "4", "5", "6", "", "", "", "", "", "12", "13", "14",
-            "verdict 0", "verdict 1", "verdict 2", "verdict 3", "two spoilt chutes"};
+            "verdict 0", "verdict 1", "verdict 2", "verdict 3", "two spoilt chutes", "60 parcels", "5 plans"};
         for (int i = 0; i < cases.length; i++) {
             Check.yes("seen: reason or " + cases[i], cases[i].isEmpty() || seen[i] > 0);
         }
@@ -39,13 +53,10 @@ public final class ModelTest {
         if (seed % 10 != 0) {
             begin();
         }
-        for (int i = 0; i < CALLS; i++) {
+        while (calls.size() < played) {
             call();
-            compareCounts(seed);
-            if (i % 10 == 0 || i == CALLS - 1) {
-                compareAll(seed);
-            }
         }
+        compareAll("seed " + seed + ", ");
     }
 
     private void look(int[] seen) {
@@ -62,13 +73,15 @@ public final class ModelTest {
                 seen[19]++;
             }
         }
+        seen[20] += model.count(5) == 60 ? 1 : 0;
+        seen[21] += model.count(4) == 5 ? 1 : 0;
     }
 
     // ---- calls
 
     private void begin() {
         int places = 12 + random.nextInt(random.nextInt(19) + 1);
-        both("build " + places, () -> sorter.build(places), () -> model.build(places));
+        both("build " + places, x -> x.build(places), () -> model.build(places));
         for (int i = random.nextInt(3) + 1; i > 0; i--) {
             addStation();
         }
@@ -81,21 +94,23 @@ public final class ModelTest {
     }
 
     private void call() {
-        int kind = random.nextInt(100);
-        if (kind < 26) {
+        if (random.nextInt(100) < arrivals) {
             arrive();
-        } else if (kind < 58) {
+            return;
+        }
+        int kind = random.nextInt(100);
+        if (kind < 45) {
             run();
-        } else if (kind < 66) {
+        } else if (kind < 50) {
             addPlan(random.nextInt(4) == 0 ? spoiled(goodText()) : goodText());
-        } else if (kind < 74) {
+        } else if (kind < 60) {
             int chute = number(model.world.chutes.size());
             boolean isClosed = random.nextInt(3) == 0;
-            both("setClosed " + chute, () -> sorter.setClosed(chute, isClosed) ? 1 : 0,
+            both("setClosed " + chute, x -> x.setClosed(chute, isClosed) ? 1 : 0,
                 () -> model.setClosed(chute, isClosed) ? 1 : 0);
-        } else if (kind < 80) {
+        } else if (kind < 68) {
             int chute = number(model.world.chutes.size());
-            both("clear " + chute, () -> sorter.clear(chute), () -> model.clear(chute));
+            both("clear " + chute, x -> x.clear(chute), () -> model.clear(chute));
         } else if (kind < 83) {
             look();
         } else {
@@ -108,23 +123,23 @@ public final class ModelTest {
             case 83: case 84: addStation(); break;
             case 85: case 86: addChute(); break;
             case 87: case 88: case 89: case 90: case 91:
-                both("undo", () -> sorter.undo(), () -> model.undo());
+                both("undo", x -> x.undo(), () -> model.undo());
                 break;
             case 92: case 93:
-                both("saveSnapshot", () -> sorter.saveSnapshot(), () -> model.saveSnapshot());
+                both("saveSnapshot", x -> x.saveSnapshot(), () -> model.saveSnapshot());
                 break;
             case 94:
-                both("restoreSnapshot", () -> sorter.restoreSnapshot(), () -> model.restoreSnapshot());
+                both("restoreSnapshot", x -> x.restoreSnapshot(), () -> model.restoreSnapshot());
                 break;
             case 95:
                 if (random.nextInt(8) == 0) {
                     int places = random.nextInt(3) == 0 ? wild(12) : 12 + random.nextInt(19);
-                    both("build " + places, () -> sorter.build(places), () -> model.build(places));
+                    both("build " + places, x -> x.build(places), () -> model.build(places));
                 }
                 break;
             case 96: case 97:
                 int plan = number(model.world.plans.size());
-                both("write " + plan, () -> sorter.write(plan), () -> model.write(plan));
+                both("write " + plan, x -> x.write(plan), () -> model.write(plan));
                 break;
             default:
                 feed((char) (random.nextInt(2) == 0 ? random.nextInt(65536) : "@0:1=0x*-;,".charAt(random.nextInt(11))));
@@ -133,7 +148,7 @@ public final class ModelTest {
 
     private void addStation() {
         int place = wild(random.nextInt(model.world.places + 1));
-        both("addStation " + place, () -> sorter.addStation(place), () -> model.addStation(place));
+        both("addStation " + place, x -> x.addStation(place), () -> model.addStation(place));
     }
 
     private void addChute() {
@@ -144,7 +159,7 @@ public final class ModelTest {
         int clearing = wild(1 + random.nextInt(9));
         int swap = wild(random.nextInt(10));
         both("addChute " + place + " " + capacity + " " + gap + " " + limit + " " + clearing + " " + swap,
-            () -> sorter.addChute(place, capacity, gap, limit, clearing, swap),
+            x -> x.addChute(place, capacity, gap, limit, clearing, swap),
             () -> model.addChute(place, capacity, gap, limit, clearing, swap));
     }
 
@@ -154,13 +169,13 @@ public final class ModelTest {
         int weight = wild(1 + random.nextInt(50));
         int condition = wild(Math.max(0, random.nextInt(5) - 2));
         both("arrive " + station + " " + destination + " " + weight + " " + condition,
-            () -> sorter.arrive(station, destination, weight, condition),
+            x -> x.arrive(station, destination, weight, condition),
             () -> model.arrive(station, destination, weight, condition));
     }
 
     private void run() {
         int ticks = wild(1 + random.nextInt(random.nextInt(8) == 0 ? 100 : 6));
-        both("run " + ticks, () -> sorter.run(ticks), () -> model.run(ticks));
+        both("run " + ticks, x -> x.run(ticks), () -> model.run(ticks));
     }
 
     /** Questions that look ahead, and questions with arguments that do not come from the state. */
@@ -168,37 +183,44 @@ public final class ModelTest {
         int parcel = number(model.world.parcels.size());
         int ticks = wild(1 + random.nextInt(200));
         boolean isTick = random.nextBoolean();
-        both("foresee " + parcel + " " + ticks, () -> sorter.foresee(parcel, ticks, isTick),
-            () -> model.foresee(parcel, ticks, isTick));
-        both("untilEmpty " + ticks, () -> sorter.untilEmpty(ticks), () -> model.untilEmpty(ticks));
         int tick = wild(random.nextInt(100));
         int destination = wild(random.nextInt(100));
         int i = wild(random.nextInt(5) - 1);
-        both("route " + tick + " " + destination + " " + i, () -> sorter.route(tick, destination, i),
-            () -> model.route(tick, destination, i));
-        both("find", () -> sorter.find(destination, i), () -> model.find(destination, i));
         int what = wild(random.nextInt(18));
-        both("parcel", () -> sorter.parcel(parcel, what), () -> model.parcel(parcel, what));
-        both("chute", () -> sorter.chute(i, what), () -> model.chute(i, what));
-        both("station", () -> sorter.station(i, what), () -> model.station(i, what));
-        both("plan", () -> sorter.plan(i, what), () -> model.plan(i, what));
-        both("ledger", () -> sorter.ledger(tick, what), () -> model.ledger(tick, what));
-        both("count", () -> sorter.count(what), () -> model.count(what));
-        both("carried", () -> sorter.carried(tick), () -> model.carried(tick));
-        both("paper", () -> (int) sorter.paper(tick), () -> (int) model.paper(tick));
+        switch (random.nextInt(12)) {
+            case 0: case 1:
+                both("foresee " + parcel + " " + ticks, x -> x.foresee(parcel, ticks, isTick),
+                    () -> model.foresee(parcel, ticks, isTick));
+                break;
+            case 2: both("untilEmpty " + ticks, x -> x.untilEmpty(ticks), () -> model.untilEmpty(ticks)); break;
+            case 3:
+                both("route " + tick + " " + destination + " " + i, x -> x.route(tick, destination, i),
+                    () -> model.route(tick, destination, i));
+                break;
+            case 4: both("find", x -> x.find(destination, i), () -> model.find(destination, i)); break;
+            case 5: both("parcel", x -> x.parcel(parcel, what), () -> model.parcel(parcel, what)); break;
+            case 6: both("chute", x -> x.chute(i, what), () -> model.chute(i, what)); break;
+            case 7: both("station", x -> x.station(i, what), () -> model.station(i, what)); break;
+            case 8: both("plan", x -> x.plan(i, what), () -> model.plan(i, what)); break;
+            case 9: both("ledger", x -> x.ledger(tick, what), () -> model.ledger(tick, what)); break;
+            case 10: both("count", x -> x.count(what), () -> model.count(what)); break;
+            default:
+                both("carried", x -> x.carried(tick), () -> model.carried(tick));
+                both("paper", x -> (int) x.paper(tick), () -> (int) model.paper(tick));
+        }
     }
 
     // ---- plans
 
     private void feed(char character) {
-        both("feed " + (int) character, () -> sorter.feed(character), () -> model.feed(character));
+        both("feed " + (int) character, x -> x.feed(character), () -> model.feed(character));
     }
 
     private void addPlan(String text) {
         for (int i = 0; i < text.length(); i++) {
             feed(text.charAt(i));
         }
-        both("addPlan " + text, () -> sorter.addPlan(), () -> model.addPlan());
+        both("addPlan " + text, x -> x.addPlan(), () -> model.addPlan());
     }
 
     private String goodText() {
@@ -268,7 +290,7 @@ public final class ModelTest {
 
     // ---- comparing
 
-    private static String answer(Supplier<Integer> call) {
+    private static String answer(Supplier<Object> call) {
         try {
             return "" + call.get();
         } catch (RuntimeException e) {
@@ -276,9 +298,13 @@ public final class ModelTest {
         }
     }
 
-    private void both(String what, Supplier<Integer> got, Supplier<Integer> due) {
-        story.append(what).append('\n');
-        same(what, answer(due), answer(got));
+    /** A call of the run, on the class and on the model; none any more once the run has all that it may have. */
+    private void both(String what, Function<ParcelSorter, Object> got, Supplier<Object> due) {
+        if (calls.size() < played) {
+            story.append(what).append('\n');
+            calls.add(got);
+            same(what, answer(due), answer(() -> got.apply(sorter)));
+        }
     }
 
     private void same(String what, String due, String got) {
@@ -289,52 +315,81 @@ public final class ModelTest {
         }
     }
 
-    private void compareCounts(long seed) {
-        for (int what = 0; what <= 16; what++) {
-            same("seed " + seed + ", count " + what, "" + model.count(what), "" + sorter.count(what));
+    /** Questions about the end of the run, all to an object that has calls left for them. */
+    private void ask(String what, int questions, Function<ParcelSorter, Object> got, Supplier<Object> due) {
+        if (asked + questions > MOST_CALLS) {
+            probe = new ParcelSorter();
+            for (Function<ParcelSorter, Object> call : calls) {
+                answer(() -> call.apply(probe));
+            }
+            asked = calls.size();
         }
+        asked += questions;
+        same(what, answer(due), answer(() -> got.apply(probe)));
     }
 
-    private void compareAll(long seed) {
-        String at = "seed " + seed + ", ";
-        for (int i = 0; i < model.world.parcels.size(); i++) {
-            for (int what = 0; what < 12; what++) {
-                same(at + "parcel " + i + " " + what, "" + model.parcel(i, what), "" + sorter.parcel(i, what));
-            }
-            same(at + "find", "" + i, "" + sorter.find(sorter.parcel(i, 0), sorter.parcel(i, 1)));
+    private void compareAll(String at) {
+        for (int w = 0; w <= 16; w++) {
+            int what = w;
+            ask(at + "count " + w, 1, x -> x.count(what), () -> model.count(what));
         }
-        for (int i = 0; i < model.world.chutes.size(); i++) {
-            for (int what = 0; what < 12; what++) {
-                same(at + "chute " + i + " " + what, "" + model.chute(i, what), "" + sorter.chute(i, what));
+        for (int p = 0; p < model.world.parcels.size(); p++) {
+            int parcel = p;
+            for (int w = 0; w < 12; w++) {
+                int what = w;
+                ask(at + "parcel " + p + " " + w, 1, x -> x.parcel(parcel, what), () -> model.parcel(parcel, what));
             }
+            int destination = model.parcel(p, 0);
+            int serial = model.parcel(p, 1);
+            ask(at + "find", 1, x -> x.find(destination, serial), () -> parcel);
         }
-        for (int i = 0; i < model.world.stations.size(); i++) {
-            for (int what = 0; what < 4; what++) {
-                same(at + "station " + i + " " + what, "" + model.station(i, what), "" + sorter.station(i, what));
-            }
-        }
-        for (int i = 0; i < model.world.places; i++) {
-            int place = i;
-            same(at + "carried " + i, answer(() -> model.carried(place)), answer(() -> sorter.carried(place)));
+        compareStations(at);
+        for (int p = 0; p < model.world.places; p++) {
+            int place = p;
+            ask(at + "carried " + p, 1, x -> x.carried(place), () -> model.carried(place));
         }
         for (int i = 0; i < model.world.ledger.size(); i++) {
-            for (int what = 0; what < 4; what++) {
-                same(at + "ledger " + i + " " + what, "" + model.ledger(i, what), "" + sorter.ledger(i, what));
+            int entry = i;
+            for (int w = 0; w < 4; w++) {
+                int what = w;
+                ask(at + "ledger " + i + " " + w, 1, x -> x.ledger(entry, what), () -> model.ledger(entry, what));
             }
         }
         comparePlans(at);
-        same(at + "mean", answer(() -> (int) (1e6 * model.meanRounds())), answer(() -> (int) (1e6 * sorter.meanRounds())));
-        same(at + "audit", "true", "" + sorter.audit());
+        ask(at + "mean", 1, x -> x.meanRounds(), () -> model.meanRounds());
+        ask(at + "audit", 1, x -> x.audit(), () -> true);
+    }
+
+    private void compareStations(String at) {
+        for (int i = 0; i < model.world.chutes.size(); i++) {
+            int chute = i;
+            for (int w = 0; w < 12; w++) {
+                int what = w;
+                ask(at + "chute " + i + " " + w, 1, x -> x.chute(chute, what), () -> model.chute(chute, what));
+            }
+        }
+        for (int i = 0; i < model.world.stations.size(); i++) {
+            int station = i;
+            for (int w = 0; w < 4; w++) {
+                int what = w;
+                ask(at + "station " + i + " " + w, 1, x -> x.station(station, what), () -> model.station(station, what));
+            }
+        }
     }
 
     private void comparePlans(String at) {
+        String paper = model.paper;
+        ask(at + "paper", paper.length(), x -> Check.paper(x, paper.length()), () -> paper);
+        ask(at + "behind the paper", 1, x -> (int) x.paper(paper.length()), () -> (int) model.paper(paper.length()));
         for (int i = 0; i < model.world.plans.size(); i++) {
-            for (int what = 0; what < 5; what++) {
-                same(at + "plan " + i + " " + what, "" + model.plan(i, what), "" + sorter.plan(i, what));
+            int plan = i;
+            for (int w = 0; w < 5; w++) {
+                int what = w;
+                ask(at + "plan " + i + " " + w, 1, x -> x.plan(plan, what), () -> model.plan(plan, what));
             }
-            int length = model.write(i);
-            same(at + "write " + i, "" + length, "" + sorter.write(i));
-            same(at + "paper", model.paper, Check.paper(sorter, length));
+            model.write(i);
+            String text = model.paper;
+            ask(at + "write " + i, 1 + text.length(), x -> Check.written(x, plan), () -> text);
         }
     }
 }

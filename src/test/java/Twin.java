@@ -63,6 +63,15 @@ final class Twin {
             got.substring(from, Math.min(got.length(), i + 60)));
     }
 
+    /** All that can be asked of a sorter, each part of it of one that was made for it. */
+    static String everything(Supplier<ParcelSorter> scene) {
+        StringBuilder text = new StringBuilder();
+        for (Function<ParcelSorter, String> part : PARTS) {
+            text.append('\n').append(part.apply(scene.get()));
+        }
+        return text.toString();
+    }
+
     private static String look(Supplier<ParcelSorter> scene, Consumer<ParcelSorter> call) {
         StringBuilder text = new StringBuilder();
         for (int way = 0; way < WAYS.size(); way++) {

@@ -183,9 +183,28 @@ public final class UndoTest {
 
     /** Every slot of the state is used for something else before it comes back. */
     private static void everythingComesBack() {
+        for (int runs = 0; runs <= 12; runs++) {
+            int times = runs;
+            Twin.becomes("it goes on as it would have, run " + runs, () -> restored(times, false),
+                () -> restored(times, true), x -> { });
+        }
+        undoneOneByOne();
+    }
+
+    private static ParcelSorter restored(int runs, boolean isUsedBetween) {
         ParcelSorter x = busy();
-        ParcelSorter twin = busy();
         x.saveSnapshot();
+        if (isUsedBetween) {
+            useAnew(x);
+        }
+        Check.same("the time", 16, x.restoreSnapshot());
+        for (int i = 0; i < runs; i++) {
+            x.run(5);
+        }
+        return x;
+    }
+
+    private static void useAnew(ParcelSorter x) {
         x.build(30);
         x.addStation(1);
         x.addStation(2);
@@ -199,14 +218,6 @@ public final class UndoTest {
             x.run(9);
             x.setClosed(i % 8, true);
         }
-        Check.same("the time", 16, x.restoreSnapshot());
-        Check.same("everything", Check.everything(twin), Check.everything(x));
-        for (int i = 0; i < 12; i++) {
-            x.run(5);
-            twin.run(5);
-            Check.same("and it goes on as it would have", Check.everything(twin), Check.everything(x));
-        }
-        undoneOneByOne();
     }
 
     private static void ledgerComesBack() {
@@ -233,16 +244,22 @@ public final class UndoTest {
     }
 
     private static void undoneOneByOne() {
+        for (int i = 0; i <= 8; i++) {
+            int left = i;
+            Check.same("left: " + i, Twin.everything(() -> ranAndUndone(left, 0)),
+                Twin.everything(() -> ranAndUndone(8, 8 - left)));
+        }
+    }
+
+    private static ParcelSorter ranAndUndone(int runs, int undone) {
         ParcelSorter x = busy();
-        String[] before = new String[8];
-        for (int i = 0; i < 8; i++) {
-            before[i] = Check.everything(x);
+        for (int i = 0; i < runs; i++) {
             x.run(i + 3);
         }
-        for (int i = 7; i >= 0; i--) {
+        for (int i = 0; i < undone; i++) {
             x.undo();
-            Check.same("change " + i, before[i], Check.everything(x));
         }
+        return x;
     }
 
     private static void snapshotIsKept() {
