@@ -371,6 +371,7 @@ public final class ParcelSorter {
         requireIndex(i, now.droppedCount);
         requireWhat(what, 3);
         int number = now.dropOrder[i];
+        requireIndex(number, now.parcelCount);
         Parcel it = now.parcels[number];
         switch (what) {
             case 0: return number;
@@ -1025,6 +1026,10 @@ public final class ParcelSorter {
             return carriers[carrierAt(place)];
         }
 
+        private boolean isParcel(int number) {
+            return isIn(number, 0, parcelCount - 1);
+        }
+
         // -- a tick
 
         void passTick() {
@@ -1034,12 +1039,12 @@ public final class ParcelSorter {
             }
             foremost = foremost > 0 ? foremost - 1 : places - 1;
             int atScanner = parcelAt(0);
-            if (atScanner != NONE) {
+            if (isParcel(atScanner)) {
                 scan(parcels[atScanner]);
             }
             for (int i = 0; i < chuteCount; i++) {
                 int parcel = parcelAt(chutes[i].place);
-                if (parcel != NONE && parcels[parcel].target == i) {
+                if (isParcel(parcel) && parcels[parcel].target == i) {
                     tryParcel(i, parcel);
                 }
             }
@@ -1115,15 +1120,21 @@ public final class ParcelSorter {
 
         private void drop(int number, int parcelNumber) {
             Parcel parcel = parcels[parcelNumber];
-            carriers[parcel.spot] = NONE;
+            carriers[carrierAt(chutes[number].place)] = NONE;
             parcel.whereabouts = DROPPED;
             parcel.spot = number;
             parcel.dropTick = time;
             parcel.verdict = verdictOf(parcel, number);
             chutes[number].receive(time);
             verdictCounts[parcel.verdict]++;
-            dropOrder[droppedCount] = parcelNumber;
-            droppedCount++;
+            enter(parcelNumber);
+        }
+
+        private void enter(int parcelNumber) {
+            if (droppedCount < MOST_PARCELS) {
+                dropOrder[droppedCount] = parcelNumber;
+                droppedCount++;
+            }
         }
 
         private int verdictOf(Parcel parcel, int chute) {
@@ -1141,7 +1152,7 @@ public final class ParcelSorter {
         private void load(Station station) {
             int carrier = carrierAt(station.place);
             int number = station.firstWaiting();
-            if (carriers[carrier] == NONE && number != NONE) {
+            if (carriers[carrier] == NONE && isParcel(number)) {
                 station.releaseFirst();
                 carriers[carrier] = number;
                 parcels[number].whereabouts = ON_LOOP;
